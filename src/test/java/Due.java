@@ -1,0 +1,41 @@
+/** Counts answers that are not the ones that are due, and prints them. */
+final class Due {
+    private int wrong = 0;
+    private int asked = 0;
+
+    void is(String what, long got, long want) {
+        asked++;
+        if (got != want) {
+            wrong++;
+            System.out.println(what + " answered " + got + ", due is " + want);
+        }
+    }
+
+    void yes(String what, boolean got) {
+        is(what, got ? 1 : 0, 1);
+    }
+
+    void no(String what, boolean got) {
+        is(what, got ? 1 : 0, 0);
+    }
+
+    void same(String what, String got, String want) {
+        asked++;
+        if (!got.equals(want)) {
+            wrong++;
+            System.out.println(what + " answered " + got + ", due is " + want);
+        }
+    }
+
+    int wrong() {
+        return wrong;
+    }
+
+    /** Ends the test's run: exit code 1 if something was wrong. */
+    void end() {
+        System.out.println(wrong == 0 ? asked + " answers are as due" : wrong + " of " + asked + " are not as due");
+        if (wrong != 0) {
+            System.exit(1);
+        }
+    }
+}
