@@ -564,7 +564,6 @@ public final class WireHosts {
         private int nxt;
         private int window;
         private boolean ending;
-        private boolean finSent;
 
         Sending() {
             bytes = new int[MOST_OUT];
@@ -577,7 +576,6 @@ public final class WireHosts {
             nxt = 0;
             window = 0;
             ending = false;
-            finSent = false;
         }
 
         void begin(int number) {
@@ -906,7 +904,6 @@ public final class WireHosts {
             pushBytes();
             if (sending.ending && sending.unsentCount() == 0) {
                 emit(Segment.FIN + Segment.ACK, sending.nxt);
-                sending.finSent = true;
                 sending.countSent(1);
                 state = state == OPEN ? FIN_1 : LAST;
             }
@@ -1053,8 +1050,8 @@ public final class WireHosts {
                 return false;
             }
             sending.window = s.window;
-            if (sending.finSent && sending.isAllConfirmed()) {
-                finIsConfirmed();
+            if (sending.isAllConfirmed()) {
+                allIsConfirmed();
             }
             return state != CLOSED;
         }
@@ -1065,7 +1062,8 @@ public final class WireHosts {
             timer = sending.isAllConfirmed() ? OFF : rto;
         }
 
-        private void finIsConfirmed() {
+        /** In FIN 1, BOTH and LAST the FIN was sent, so it is confirmed too. */
+        private void allIsConfirmed() {
             if (state == FIN_1) {
                 state = FIN_2;
             } else if (state == BOTH) {

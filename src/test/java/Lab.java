@@ -78,7 +78,7 @@ final class Lab {
         drop(h);
     }
 
-    /** A frame of 7 or of 14 to 37 bytes arrives at host h, before all that is on the way to it; its sender must know h. */
+    /** A frame of 14 to 37 bytes arrives at host h, before all that is on the way to it; the other host must know h. */
     void arrive(int h, int... frame) {
         int others = x.flying(h);
         x.ping(1 - h, 0, frame.length < 18 ? frame.length + 6 : frame.length - 18);
@@ -109,8 +109,8 @@ final class Lab {
 
     /** The frame of a packet to host h, its checksum made. */
     static int[] packet(int h, int ident, int offsetAndMore, int protocol, int... data) {
-        int[] f = Model.join(new int[] {16 + h, 17 - h, 8, 10 + data.length, ident, offsetAndMore, 64, protocol, 0, 0, 0,
-            2 - h, 1 + h}, data);
+        int[] head = {16 + h, 17 - h, 8, 10 + data.length, ident, offsetAndMore, 64, protocol, 0, 0, 0, 2 - h, 1 + h};
+        int[] f = Model.join(head, data);
         Frames.seal(f);
         return f;
     }
@@ -126,6 +126,12 @@ final class Lab {
     /** A segment for socket 1 arrives at host h. */
     void segment(int h, int flags, int seq, int ack, int window, int... data) {
         arrive(h, segmentFrame(h, 1, flags, seq, ack, window, data));
+    }
+
+    /** A message of 25 to 48 bytes arrives at host h, in two packets. */
+    void twoPackets(int h, int protocol, int... message) {
+        arrive(h, packet(h, 77, 128, protocol, Model.part(message, 0, 24)));
+        arrive(h, packet(h, 77, 6, protocol, Model.part(message, 24, message.length)));
     }
 
     static int[] bytes(int first, int count) {
@@ -155,15 +161,24 @@ final class Lab {
         return "";
     }
 
+    /** Whether all is there that is the same in every packet: bytes, checksums, and what is 0 or 64 always. */
+    private static boolean isRight(int[] f, int[] m) {
+        int[] sealed = f.clone();
+        Frames.seal(sealed);
+        boolean right = java.util.Arrays.equals(f, sealed) && f[6] == 64 && f[8] == 0;
+        for (int b : f) {
+            right &= b >= 0 && b <= 255;
+        }
+        return right && (f[5] != 0 || m[f[7] == 1 ? 1 : 7] == 0);
+    }
+
     /** One frame as text: an ask; a segment as flags, SEQ, ACK number, window and data; an echo; or a piece. */
     static String text(int[] f) {
         if (f[2] == 6) {
             return "ask " + f[3] + " to " + f[0] + " from " + f[4];
         }
-        int[] sealed = f.clone();
-        Frames.seal(sealed);
-        String right = java.util.Arrays.equals(f, sealed) ? "" : " WRONG";
         int[] m = Model.part(f, 13, f.length);
+        String right = isRight(f, m) ? "" : " WRONG";
         if (f[5] != 0) {
             return "piece " + f[5] + " of " + f[4] + " size " + m.length + right;
         }

@@ -122,7 +122,8 @@ final class Model {
                 line.clear();
             } else if (f[2] == 8) {
                 int[] p = part(f, 3, f.length);
-                if (p.length >= 11 && p[0] == p.length && check(part(p, 0, 10)) == 0 && p[8] == 2 - h && p[9] == 1 + h) {
+                if (p.length >= 11 && p[0] == p.length && check(part(p, 0, 10)) == 0
+                        && p[8] == 2 - h && p[9] == 1 + h) {
                     together(p);
                 }
             }
@@ -490,7 +491,8 @@ final class Model {
 
     boolean send(int h, int p, int v) {
         Plug s = plug(h, p);
-        if (s == null || s.state != OPEN && s.state != CLOSE_WAIT || s.ending || v < 0 || v > 255 || s.out.size() == 64) {
+        if (s == null || s.state != OPEN && s.state != CLOSE_WAIT || s.ending || v < 0 || v > 255
+                || s.out.size() == 64) {
             return false;
         }
         s.out.add(v);

@@ -2,7 +2,7 @@ import java.util.ArrayList;
 import java.util.List;
 import java.util.Random;
 
-/** Long runs of calls, by fixed seeds, on WireHosts and on the Model: every answer and all that can be asked is the same. */
+/** Long runs of calls, by fixed seeds, on WireHosts and on the Model: all that they answer is the same. */
 public final class ModelTest {
     private static final int RUNS = 1200;
     private static final int CALLS = 512;

@@ -190,6 +190,13 @@ public final class PingTest {
         lab.arrive(0, longAsk);
         lab.hostIs(0, 7, 17);
         lab.hostIs(0, 0, 20);
+        // An ask that became a packet on the way is no packet.
+        lab.x.tick(20);
+        lab.x.ping(1, 0, 0);
+        lab.rewrite(0, 16, 17, 8, 4, 17, 2, 1);
+        due.is("the type", lab.x.carry(0), 8);
+        lab.hostIs(0, 2, 1);
+        lab.went(1, "");
     }
 
     private static void stationAsItIsSaid() {
@@ -252,6 +259,10 @@ public final class PingTest {
         lab.arrive(0, frame);
         lab.hostIs(0, 2, 2);
         lab.hostIs(0, 3, 77);
+        // And what is sent next has nothing of it.
+        lab.x.connect(0, 1);
+        lab.x.ping(0, 1, 0);
+        lab.went(1, "S 100 0 24; echo 8 token 1 size 5");
     }
 
     /** A right echo answer of 12 bytes, to be cut. */
@@ -318,6 +329,7 @@ public final class PingTest {
         lab.arrive(0, Lab.packet(0, 7, 11, 1, 1, 2, 3, 4, 5));
         lab.arrive(0, Lab.packet(0, 7, 127 + 128, 1, 1, 2, 3, 4, 5));
         lab.hostIs(0, 4, 0);
+        lab.hostIs(0, 2, 1);
         lab.arrive(0, Lab.packet(0, 7, 11, 1, 1, 2, 3, 4));
         lab.hostIs(0, 4, 1);
     }

@@ -29,6 +29,7 @@ public final class SegmentTest {
         lastState();
         endingOpenToLast();
         pushAfterConfirmation();
+        sizesOfSegments();
         pieceSegments();
         due.end();
     }
@@ -49,10 +50,11 @@ public final class SegmentTest {
         lab.arrive(1, wrongCheck);
         lab.is(1, Lab.IN, 0);
         // Nine bytes are no segment, even with a right check.
-        int[] nine = {1, A, 0, 101, 4, 77, 24, 0, 0};
+        int[] nine = {1, A, 0, 101, 4, 77, 99, 0, 0};
         Frames.putPair(nine, 4, 1101 + Model.check(Model.join(new int[] {1, 2, 6, 9}, nine)));
         due.is("its check", Model.check(Model.join(new int[] {1, 2, 6, 9}, nine)), 0);
         lab.arrive(1, Lab.packet(1, 0, 0, 6, nine));
+        lab.is(1, Lab.WIN, 24);
         lab.went(0, "");
         right[20] = 99;
         Frames.seal(right);
@@ -233,8 +235,9 @@ public final class SegmentTest {
         lab.segment(1, Lab.RST, 100, 0, 0);
         lab.went(0, "");
         lab.state(1, Lab.OPEN);
-        lab.segment(1, Lab.RST, 124, 0, 0);
+        lab.segment(1, Lab.RST + A, 124, 1, 9, 5);
         lab.state(1, Lab.CLOSED);
+        lab.is(1, Lab.WIN, 0);
         lab.went(0, "");
 
         lab = new Lab(due).open();
@@ -370,6 +373,13 @@ public final class SegmentTest {
         lab.segment(1, A + Lab.FIN, 4, 1101, 24);
         lab.state(1, Lab.CLOSE_WAIT);
         lab.is(1, Lab.RCV, 5);
+        // 0 is a number like others, not "no FIN".
+        lab = new Lab(due).meet();
+        lab.x.listen(1, 1);
+        lab.segment(1, Lab.SYN, 65533, 0, 24);
+        lab.segment(1, A, 65534, 1101, 24, 1, 2);
+        lab.state(1, Lab.OPEN);
+        lab.is(1, Lab.RCV, 0);
         lab = new Lab(due).meet();
         lab.x.listen(1, 1);
         lab.segment(1, Lab.SYN, 65533, 0, 24);
@@ -422,6 +432,11 @@ public final class SegmentTest {
         lab.segment(1, A + Lab.FIN, 121, 1101, 24, 1, 2, 3, 4, 5);
         lab.state(1, Lab.OPEN);
         lab.is(1, Lab.RCV, 125);
+        // That FIN was not kept: its number comes, and nothing ends.
+        lab.x.read(1, 1);
+        lab.segment(1, A, 125, 1101, 24, 5);
+        lab.is(1, Lab.RCV, 126);
+        lab.state(1, Lab.OPEN);
         lab = new Lab(due).open();
         lab.fill(1, 20);
         lab.drop(0);
@@ -568,6 +583,24 @@ public final class SegmentTest {
         lab.went(1, "A 103 1102 23; A 103 1102 23 :2 3 4");
         lab.is(0, Lab.TIMER, 4);
         lab.is(0, Lab.OUT, 4);
+    }
+
+    /** A segment for socket 1 of host 1 with so many bytes of data. */
+    private static int[] longSegment(int count) {
+        int[] m = Model.join(new int[] {1, A, 0, 101, 4, 77, 24, 0, 0, 0}, Lab.bytes(1, count));
+        Frames.putPair(m, 8, Model.check(Model.join(new int[] {1, 2, 6, m.length}, m)));
+        return m;
+    }
+
+    private static void sizesOfSegments() {
+        Lab lab = new Lab(due).open();
+        lab.twoPackets(1, 6, longSegment(33));
+        lab.is(1, Lab.IN, 0);
+        lab.went(0, "");
+        lab.twoPackets(1, 6, longSegment(32));
+        lab.is(1, Lab.IN, 24);
+        lab.went(0, "A 1101 125 0");
+        due.is("the first byte", lab.x.read(1, 1), 1);
     }
 
     private static void pieceSegments() {

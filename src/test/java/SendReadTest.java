@@ -12,6 +12,7 @@ public final class SendReadTest {
         sixtyFourOut();
         atMostThirtyTwoInOneSegment();
         timerRunsWhenWindowIsShut();
+        oneByteAndNoWindow();
         endingRefuses();
         readsInOrder();
         refusedReads();
@@ -162,6 +163,16 @@ public final class SendReadTest {
         lab.went(1, "A 101 1101 24 :7");
         lab.is(0, Lab.NXT, 102);
         lab.is(0, Lab.RTO, 16);
+    }
+
+    private static void oneByteAndNoWindow() {
+        Lab lab = new Lab(due).open();
+        lab.segment(0, Lab.ACK, 1101, 101, 0);
+        lab.x.send(0, 1, 7);
+        lab.is(0, Lab.TIMER, 4);
+        lab.x.tick(4);
+        lab.went(1, "A 101 1101 24 :7");
+        lab.is(0, Lab.NXT, 102);
     }
 
     private static void endingRefuses() {
