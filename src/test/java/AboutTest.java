@@ -5,13 +5,14 @@ public final class AboutTest {
     public static void main(String[] args) {
         refused();
         eachNumberOfASocket();
-        socketsAreApart();
+        eachNumberOfAHost();
+        closedSocket();
         askingChangesNothing();
         due.end();
     }
 
     private static void refused() {
-        WireHosts x = new WireHosts();
+        Counted x = new Counted();
         for (int wrong : new int[] {-1, 2, Integer.MIN_VALUE, Integer.MAX_VALUE}) {
             due.is("socket of host " + wrong, x.socket(wrong, 1, 0), -1);
             due.is("host " + wrong, x.host(wrong, 0), -1);
@@ -42,20 +43,35 @@ public final class AboutTest {
         }
     }
 
-    private static void socketsAreApart() {
-        Lab lab = new Lab(due).open();
-        lab.x.listen(0, 2);
-        lab.x.connect(1, 2);
+    private static void eachNumberOfAHost() {
+        Lab lab = new Lab(due).meet();
+        lab.x.tick(2);
+        lab.x.ping(0, 9, 0);
         lab.carryAll();
-        lab.x.send(1, 2, 33);
+        lab.arrive(0, Lab.packet(0, 7, 128, 1, 1, 2, 3, 4));
+        int[] want = {28, 0, 2, 9, 1, 2, 2, 17};
+        for (int what = 0; what < want.length; what++) {
+            lab.hostIs(0, what, want[what]);
+        }
+        lab.x.tick(28);
+        lab.x.ping(1, 1, 43);
+        int[] later = {0, 2, 0, -1, 0, 4, 4, 16};
+        for (int what = 0; what < later.length; what++) {
+            lab.hostIs(1, what, later[what]);
+        }
+    }
+
+    /** "(In CLOSED: 0 for 1 to 10, but RTO 4.)" */
+    private static void closedSocket() {
+        Lab lab = new Lab(due);
+        lab.socketIs(0, 0, 0, 0, 0, 0, 0, 0, 0, 4, 0, 0);
+        lab.open();
+        lab.x.send(0, 1, 5);
         lab.carryAll();
-        due.is("state", lab.x.socket(0, 2, 0), Lab.OPEN);
-        due.is("UNA", lab.x.socket(0, 2, 1), 201);
-        due.is("RCV", lab.x.socket(0, 2, 3), 1202);
-        due.is("IN", lab.x.socket(0, 2, 6), 1);
-        due.is("IN of socket 1", lab.x.socket(0, 1, 6), 0);
-        due.is("read of socket 1", lab.x.read(0, 1), -1);
-        due.is("read of socket 2", lab.x.read(0, 2), 33);
+        lab.x.abort(1, 1);
+        lab.carryAll();
+        lab.socketIs(0, 0, 0, 0, 0, 0, 0, 0, 0, 4, 0, 0);
+        lab.socketIs(1, 0, 0, 0, 0, 0, 0, 0, 0, 4, 0, 0);
     }
 
     private static void askingChangesNothing() {

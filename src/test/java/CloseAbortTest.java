@@ -3,55 +3,59 @@ public final class CloseAbortTest {
     private static final Due due = new Due();
 
     public static void main(String[] args) {
+        noSuchHostsAndSockets();
+        closeInEachState();
         closeBeforeOpen();
-        refusedCloses();
         closeInOrder();
         closeAtOnce();
         closeWaitsForBytes();
         closeInCloseWait();
-        finIsSentAgain();
-        refusedAborts();
-        abortsWithRst();
-        silentAborts();
+        abortInEachState();
         abortForgetsAll();
+        abortAnswersRoomAndRcv();
         due.end();
     }
 
-    private static void closeBeforeOpen() {
-        Lab lab = new Lab(due).meet();
-        lab.x.listen(0, 1);
-        due.yes("close LISTEN", lab.x.close(0, 1));
-        lab.state(0, Lab.CLOSED);
-        lab.x.connect(0, 1);
-        lab.drop(1);
-        due.yes("close SYN SENT", lab.x.close(0, 1));
-        lab.state(0, Lab.CLOSED);
-        lab.is(0, Lab.NXT, 0);
-        lab.is(0, Lab.TIMER, 0);
-        lab.went(1, "");
+    private static void noSuchHostsAndSockets() {
+        Lab lab = new Lab(due).open();
+        String before = lab.all();
+        int[][] wrong = {{-1, 1}, {2, 1}, {0, 0}, {0, 3}, {1, -1}, {Integer.MIN_VALUE, 1}, {0, Integer.MAX_VALUE}};
+        for (int[] w : wrong) {
+            due.no("close " + w[0] + " " + w[1], lab.x.close(w[0], w[1]));
+            due.no("abort " + w[0] + " " + w[1], lab.x.abort(w[0], w[1]));
+        }
+        due.no("close CLOSED", lab.x.close(0, 2));
+        due.no("abort CLOSED", lab.x.abort(0, 2));
+        due.same("all", lab.all(), before);
     }
 
-    private static void refusedCloses() {
-        Lab lab = new Lab(due).meet();
-        due.no("host -1", lab.x.close(-1, 1));
-        due.no("host 2", lab.x.close(2, 1));
-        due.no("socket 0", lab.x.close(0, 0));
-        due.no("socket 3", lab.x.close(0, 3));
-        due.no("CLOSED", lab.x.close(0, 1));
-        lab.x.listen(1, 1);
-        lab.x.connect(0, 1);
-        lab.x.carry(1);
-        due.no("SYN GOT", lab.x.close(1, 1));
-        lab.state(1, Lab.SYN_GOT);
-        lab.carryAll();
-        lab.x.close(0, 1);
-        due.no("FIN 1", lab.x.close(0, 1));
-        lab.carryAll();
-        due.no("FIN 2", lab.x.close(0, 1));
-        lab.x.close(1, 1);
-        due.no("LAST", lab.x.close(1, 1));
-        lab.carryAll();
-        due.no("TIME", lab.x.close(0, 1));
+    /** "LISTEN and SYN SENT become CLOSED; OPEN and CLOSE WAIT, not ENDING yet, are ENDING"; refused in all others */
+    private static void closeInEachState() {
+        int[] then = {-1, Lab.CLOSED, Lab.CLOSED, -1, Lab.FIN_1, -1, -1, Lab.LAST, -1, -1, -1};
+        for (int state = Lab.CLOSED; state <= Lab.TIME; state++) {
+            Lab lab = new Lab(due).in(state);
+            String before = lab.all();
+            due.is("close in state " + state, lab.x.close(0, 1) ? 1 : 0, then[state] >= 0 ? 1 : 0);
+            if (then[state] < 0) {
+                due.same("all in state " + state, lab.all(), before);
+            } else {
+                lab.state(0, then[state]);
+                lab.flying(1, then[state] == Lab.CLOSED ? 0 : 1);
+            }
+        }
+    }
+
+    private static void closeBeforeOpen() {
+        Lab lab = new Lab(due).in(Lab.LISTEN);
+        due.yes("close LISTEN", lab.x.close(0, 1));
+        lab.socketIs(0, 0, 0, 0, 0, 0, 0, 0, 0, 4, 0, 0);
+        due.no("close again", lab.x.close(0, 1));
+        lab = new Lab(due).in(Lab.SYN_SENT);
+        lab.x.tick(4);
+        lab.drop(1);
+        due.yes("close SYN SENT", lab.x.close(0, 1));
+        lab.socketIs(0, 0, 0, 0, 0, 0, 0, 0, 0, 4, 0, 0);
+        lab.went(1, "");
     }
 
     private static void closeInOrder() {
@@ -81,10 +85,7 @@ public final class CloseAbortTest {
         lab.x.tick(7);
         lab.state(0, Lab.TIME);
         lab.x.tick(1);
-        lab.state(0, Lab.CLOSED);
-        lab.is(0, Lab.NXT, 0);
-        lab.is(0, Lab.RCV, 0);
-        lab.is(0, Lab.ENDING, 0);
+        lab.socketIs(0, 0, 0, 0, 0, 0, 0, 0, 0, 4, 0, 0);
     }
 
     private static void closeAtOnce() {
@@ -116,13 +117,9 @@ public final class CloseAbortTest {
         lab.segment(0, Lab.ACK, 1101, 102, 1);
         // The FIN needs no room in the window.
         lab.went(1, "A 102 1101 24 :2; FA 103 1101 24");
-        lab.state(0, Lab.FIN_1);
-        lab.is(0, Lab.OUT, 1);
-        lab.is(0, Lab.NXT, 104);
+        lab.socketIs(0, Lab.FIN_1, 102, 104, 1101, 1, 1, 0, 4, 4, 0, 1);
         lab.segment(0, Lab.ACK, 1101, 103, 1);
-        lab.state(0, Lab.FIN_1);
-        lab.is(0, Lab.OUT, 0);
-        lab.is(0, Lab.TIMER, 4);
+        lab.socketIs(0, Lab.FIN_1, 103, 104, 1101, 1, 0, 0, 4, 4, 0, 1);
         lab.segment(0, Lab.ACK, 1101, 104, 1);
         lab.state(0, Lab.FIN_2);
     }
@@ -137,80 +134,18 @@ public final class CloseAbortTest {
         lab.went(1, "");
     }
 
-    private static void finIsSentAgain() {
-        Lab lab = new Lab(due).open();
-        lab.x.send(0, 1, 5);
-        lab.x.close(0, 1);
-        lab.drop(1);
-        lab.x.tick(4);
-        lab.went(1, "A 101 1101 24 :5");
-        lab.segment(0, Lab.ACK, 1101, 102, 24);
-        lab.is(0, Lab.TRIES, 0);
-        lab.is(0, Lab.RTO, 4);
-        lab.x.tick(4);
-        lab.went(1, "FA 102 1101 24");
-        lab.x.tick(8);
-        lab.went(1, "FA 102 1101 24");
-    }
-
-    private static void refusedAborts() {
-        Lab lab = new Lab(due).meet();
-        due.no("host -1", lab.x.abort(-1, 1));
-        due.no("host 2", lab.x.abort(2, 1));
-        due.no("socket 0", lab.x.abort(0, 0));
-        due.no("socket 3", lab.x.abort(0, 3));
-        due.no("CLOSED", lab.x.abort(0, 1));
-        lab.went(1, "");
-    }
-
-    private static void abortsWithRst() {
-        Lab lab = new Lab(due).open();
-        lab.fill(0, 5);
-        lab.x.send(0, 1, 1);
-        lab.drop(1);
-        due.yes("OPEN", lab.x.abort(0, 1));
-        lab.went(1, "R 102 1106 19");
-        lab.state(0, Lab.CLOSED);
-
-        lab = new Lab(due).meet();
-        lab.x.listen(1, 1);
-        lab.x.connect(0, 1);
-        lab.x.carry(1);
-        lab.drop(0);
-        due.yes("SYN GOT", lab.x.abort(1, 1));
-        lab.went(0, "R 1101 101 24");
-
-        lab = new Lab(due).halfClosed();
-        due.yes("CLOSE WAIT", lab.x.abort(0, 1));
-        lab.went(1, "R 101 1102 24");
-        due.yes("FIN 2", lab.x.abort(1, 1));
-        lab.went(0, "R 1102 101 24");
-
-        lab = new Lab(due).halfClosed();
-        lab.x.close(0, 1);
-        lab.drop(1);
-        due.yes("LAST", lab.x.abort(0, 1));
-        lab.went(1, "R 102 1102 24");
-    }
-
-    private static void silentAborts() {
-        Lab lab = new Lab(due).meet();
-        lab.x.listen(0, 1);
-        due.yes("LISTEN", lab.x.abort(0, 1));
-        lab.state(0, Lab.CLOSED);
-        lab.x.connect(0, 1);
-        lab.drop(1);
-        due.yes("SYN SENT", lab.x.abort(0, 1));
-        lab.state(0, Lab.CLOSED);
-        lab.went(1, "");
-
-        lab = new Lab(due).halfClosed();
-        lab.x.close(0, 1);
-        lab.carryAll();
-        lab.state(1, Lab.TIME);
-        due.yes("TIME", lab.x.abort(1, 1));
-        lab.state(1, Lab.CLOSED);
-        lab.went(0, "");
+    /** "RST with SEQ NXT goes (not in LISTEN, SYN SENT and TIME), CLOSED: true"; refused in CLOSED */
+    private static void abortInEachState() {
+        String[] rst = {"", "", "", "R 101 1101 24", "R 101 1101 24", "R 102 1101 24", "R 102 1101 24",
+            "R 101 1102 24", "R 102 1102 24", "R 102 1102 24", ""};
+        for (int state = Lab.CLOSED; state <= Lab.TIME; state++) {
+            Lab lab = new Lab(due).in(state);
+            due.is("abort in state " + state, lab.x.abort(0, 1) ? 1 : 0, state == Lab.CLOSED ? 0 : 1);
+            lab.went(1, rst[state]);
+            lab.socketIs(0, 0, 0, 0, 0, 0, 0, 0, 0, 4, 0, 0);
+            due.no("abort again", lab.x.abort(0, 1));
+            lab.went(1, "");
+        }
     }
 
     private static void abortForgetsAll() {
@@ -222,11 +157,18 @@ public final class CloseAbortTest {
         }
         lab.x.tick(5);
         lab.x.abort(0, 1);
-        for (int what = 0; what < 11; what++) {
-            lab.is(0, what, what == Lab.RTO ? 4 : 0);
-        }
+        lab.socketIs(0, 0, 0, 0, 0, 0, 0, 0, 0, 4, 0, 0);
         due.is("read", lab.x.read(0, 1), -1);
         lab.x.tick(60);
         lab.state(0, Lab.CLOSED);
+    }
+
+    private static void abortAnswersRoomAndRcv() {
+        Lab lab = new Lab(due).open();
+        lab.fill(0, 5);
+        lab.x.send(0, 1, 1);
+        lab.drop(1);
+        due.yes("OPEN", lab.x.abort(0, 1));
+        lab.went(1, "R 102 1106 19");
     }
 }

@@ -6,7 +6,7 @@ final class Frames {
     }
 
     /** Frame k on the way to host h; empty if there is none. */
-    static int[] read(WireHosts x, int h, int k) {
+    static int[] read(Counted x, int h, int k) {
         int[] frame = new int[Math.max(0, x.octet(h, k, WireHosts.NONE))];
         for (int i = 0; i < frame.length; i++) {
             frame[i] = x.octet(h, k, i);

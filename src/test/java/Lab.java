@@ -1,3 +1,4 @@
+import java.util.Arrays;
 import java.util.StringJoiner;
 
 /** One WireHosts with what tests need often: a frame or segment of one's own that arrives, and what went, as text. */
@@ -7,15 +8,16 @@ final class Lab {
             CLOSE_WAIT = 7, BOTH = 8, LAST = 9, TIME = 10;
     static final int STATE = 0, UNA = 1, NXT = 2, RCV = 3, WIN = 4, OUT = 5, IN = 6, TIMER = 7, RTO = 8, TRIES = 9,
             ENDING = 10;
+    static final int KNOWN = 0, LINE = 1, PONGS = 2, TOKEN = 3, SLOTS = 4, IDENT = 5, ASK_TIMER = 6, STATION = 7;
 
-    final WireHosts x = new WireHosts();
+    final Counted x = new Counted();
     final Due due;
 
     Lab(Due due) {
         this.due = due;
     }
 
-    /** Both hosts know each other's station, for 30 ticks; nothing is on the way. */
+    /** Both hosts know each other's station, for 30 ticks; nothing is on the way; host 0 got one echo, of token 0. */
     Lab meet() {
         x.ping(0, 0, 0);
         carryAll();
@@ -43,16 +45,40 @@ final class Lab {
         return this;
     }
 
+    /** Socket 1 of host 0 is in this state; its FIRST is 100, the other's 1100. Nothing is on the way. */
+    Lab in(int wanted) {
+        switch (wanted) {
+            case CLOSED -> meet();
+            case LISTEN -> meet().x.listen(0, 1);
+            case SYN_SENT -> meet().x.connect(0, 1);
+            case SYN_GOT -> in(LISTEN).segment(0, SYN, 1100, 0, 24);
+            case OPEN -> open();
+            case FIN_1 -> open().x.close(0, 1);
+            case FIN_2 -> in(FIN_1).segment(0, ACK, 1101, 102, 24);
+            case CLOSE_WAIT -> open().segment(0, ACK + FIN, 1101, 101, 24);
+            case BOTH -> in(FIN_1).segment(0, ACK + FIN, 1101, 101, 24);
+            case LAST -> in(CLOSE_WAIT).x.close(0, 1);
+            default -> in(FIN_2).segment(0, ACK + FIN, 1101, 102, 24);
+        }
+        drop(1);
+        state(0, wanted);
+        return this;
+    }
+
     void carryAll() {
-        for (int i = 0; i < 200 && x.flying(0) + x.flying(1) > 0; i++) {
-            x.carry(1);
-            x.carry(0);
+        for (int i = 0; i < 200; i++) {
+            boolean came = x.carry(1) >= 0;
+            came |= x.carry(0) >= 0;
+            if (!came) {
+                return;
+            }
         }
     }
 
     void drop(int h) {
-        while (x.flying(h) > 0) {
-            x.disturb(h, 0);
+        boolean there = true;
+        for (int i = 0; i < 16 && there; i++) {
+            there = x.disturb(h, 0);
         }
     }
 
@@ -64,45 +90,103 @@ final class Lab {
         due.is(where() + "socket(" + h + ", 1, " + what + ")", x.socket(h, 1, what), want);
     }
 
+    /** All that socket() tells about socket 1 of host h: state, UNA, NXT, RCV, WIN, OUT, IN, timer, RTO, TRIES, ENDING. */
+    void socketIs(int h, int... want) {
+        int[] got = new int[11];
+        for (int what = 0; what < got.length; what++) {
+            got[what] = x.socket(h, 1, what);
+        }
+        due.same(where() + "socket 1 of host " + h, Arrays.toString(got), Arrays.toString(want));
+    }
+
     void hostIs(int h, int what, int want) {
         due.is(where() + "host(" + h + ", " + what + ")", x.host(h, what), want);
+    }
+
+    void flying(int h, int want) {
+        due.is(where() + "flying(" + h + ")", x.flying(h), want);
     }
 
     /** What is on the way to host h, as text; then it is dropped. */
     void went(int h, String want) {
         StringJoiner all = new StringJoiner("; ");
-        for (int k = 0; k < x.flying(h); k++) {
-            all.add(text(Frames.read(x, h, k)));
+        for (int[] f = Frames.read(x, h, 0); f.length > 0; f = Frames.read(x, h, 0)) {
+            all.add(text(f));
+            x.disturb(h, 0);
         }
         due.same(where() + "frames to host " + h, all.toString(), want);
-        drop(h);
+    }
+
+    /** Frame k on the way to host h is just this one. */
+    void frameIs(int h, int k, int... want) {
+        due.same(where() + "frame " + k + " to host " + h, Arrays.toString(Frames.read(x, h, k)),
+                Arrays.toString(want));
+    }
+
+    /** Everything that the face tells without changing anything. */
+    String all() {
+        StringJoiner all = new StringJoiner(" ");
+        for (int h = 0; h < 2; h++) {
+            all.add("\nhost " + h + ":");
+            for (int what = 0; what < 8; what++) {
+                all.add("" + x.host(h, what));
+            }
+            for (int p = 1; p <= 2; p++) {
+                all.add("\nsocket " + p + ":");
+                for (int what = 0; what < 11; what++) {
+                    all.add("" + x.socket(h, p, what));
+                }
+            }
+            int count = x.flying(h);
+            for (int k = 0; k < count; k++) {
+                all.add("\n" + Arrays.toString(Frames.read(x, h, k)));
+            }
+        }
+        return all.toString();
     }
 
     /** A frame of 14 to 37 bytes arrives at host h, before all that is on the way to it; the other host must know h. */
     void arrive(int h, int... frame) {
         int others = x.flying(h);
-        x.ping(1 - h, 0, frame.length < 18 ? frame.length + 6 : frame.length - 18);
+        int ident = x.host(1 - h, IDENT);
+        boolean small = frame.length < 18;
+        x.ping(1 - h, 0, small ? frame.length + 6 : frame.length - 18);
+        putFirst(h, others);
+        if (small) {
+            // The message went in two packets, the second being of the size that is wanted.
+            x.disturb(h, 0);
+            putFirst(h, others);
+        }
+        change(h, small ? secondOfPing(h, ident, frame.length) : pingFrame(h, ident, frame.length), frame);
+        due.is(where() + "the type that carry(" + h + ") tells", x.carry(h), frame[2]);
+    }
+
+    private void putFirst(int h, int others) {
         for (int i = 0; i < others; i++) {
             x.disturb(h, 1);
         }
-        if (frame.length < 18) {
-            // The message went in two packets, the second being of the size that is wanted.
-            x.disturb(h, 0);
-            for (int i = 0; i < others; i++) {
-                x.disturb(h, 1);
-            }
-        }
-        rewrite(h, frame);
-        due.is(where() + "the type that carry(" + h + ") tells", x.carry(h), frame[2]);
+    }
+
+    private static int[] pingFrame(int h, int ident, int size) {
+        return packet(h, ident, 0, 1, Model.join(new int[] {8, 0, 0, 0, 0}, bytes(0, size - 18)));
+    }
+
+    private static int[] secondOfPing(int h, int ident, int size) {
+        return packet(h, ident, 6, 1, bytes(19, size - 13));
     }
 
     /** The first frame on the way to host h becomes this one of the same size. */
     void rewrite(int h, int... frame) {
-        due.is(where() + "size of the frame to rewrite", x.octet(h, 0, -1), frame.length);
+        int[] was = Frames.read(x, h, 0);
+        due.is(where() + "size of the frame to rewrite", was.length, frame.length);
+        change(h, was, frame);
+    }
+
+    private void change(int h, int[] was, int[] frame) {
         for (int i = 0; i < frame.length; i++) {
-            int mask = x.octet(h, 0, i) ^ frame[i];
+            int mask = was[i] ^ frame[i];
             if (mask != 0) {
-                x.alter(h, i, mask);
+                due.yes(where() + "alter(" + h + ", " + i + ", " + mask + ")", x.alter(h, i, mask));
             }
         }
     }
@@ -142,13 +226,14 @@ final class Lab {
         return row;
     }
 
-    /** Host h's socket 1 gets so many bytes, 10, 11 and so on, in segments of at most 12. */
+    /** Host h's socket 1 gets so many bytes, 10, 11 and so on, in segments of at most 12; what it answers is dropped. */
     void fill(int h, int count) {
         for (int done = 0; done < count; done += 12) {
             int[] data = bytes(10 + done, Math.min(12, count - done));
             segment(h, ACK, x.socket(h, 1, RCV), x.socket(h, 1, NXT), 24, data);
         }
         is(h, IN, count);
+        drop(1 - h);
     }
 
     /** The test's method and line, so that a wrong answer can be found. */
@@ -165,7 +250,7 @@ final class Lab {
     private static boolean isRight(int[] f, int[] m) {
         int[] sealed = f.clone();
         Frames.seal(sealed);
-        boolean right = java.util.Arrays.equals(f, sealed) && f[6] == 64 && f[8] == 0;
+        boolean right = Arrays.equals(f, sealed) && f[6] == 64 && f[8] == 0;
         for (int b : f) {
             right &= b >= 0 && b <= 255;
         }

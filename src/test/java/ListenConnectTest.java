@@ -5,7 +5,6 @@ public final class ListenConnectTest {
     public static void main(String[] args) {
         listens();
         connects();
-        firstNumbers();
         wrongOnes();
         refusedInAllOtherStates();
         handshake();
@@ -45,20 +44,8 @@ public final class ListenConnectTest {
         lab.went(1, "socket 2 S 200 0 24");
     }
 
-    private static void firstNumbers() {
-        for (int h = 0; h < 2; h++) {
-            for (int p = 1; p <= 2; p++) {
-                WireHosts x = new WireHosts();
-                x.tick(17);
-                x.connect(h, p);
-                due.is("UNA", x.socket(h, p, 1), 1000 * h + 100 * p + 17);
-                due.is("NXT", x.socket(h, p, 2), 1000 * h + 100 * p + 18);
-            }
-        }
-    }
-
     private static void wrongOnes() {
-        WireHosts x = new WireHosts();
+        Counted x = new Counted();
         int[][] wrong = {{-1, 1}, {2, 1}, {0, 0}, {0, 3}, {1, -1}, {Integer.MIN_VALUE, 1}, {0, Integer.MAX_VALUE}};
         for (int[] w : wrong) {
             due.no("listen " + w[0] + " " + w[1], x.listen(w[0], w[1]));
@@ -67,15 +54,21 @@ public final class ListenConnectTest {
         due.is("nothing is asked", x.flying(0) + x.flying(1), 0);
     }
 
+    /** "or it is not CLOSED" */
     private static void refusedInAllOtherStates() {
-        Lab lab = new Lab(due).halfClosed();
-        for (int h = 0; h < 2; h++) {
-            due.no("listen", lab.x.listen(h, 1));
-            due.no("connect", lab.x.connect(h, 1));
+        for (int state = Lab.CLOSED; state <= Lab.TIME; state++) {
+            Lab lab = new Lab(due).in(state);
+            String before = lab.all();
+            if (state == Lab.CLOSED) {
+                due.yes("listen", lab.x.listen(0, 1));
+                lab = new Lab(due).in(state);
+                due.yes("connect", lab.x.connect(0, 1));
+            } else {
+                due.no("listen", lab.x.listen(0, 1));
+                due.no("connect", lab.x.connect(0, 1));
+                due.same("all in state " + state, lab.all(), before);
+            }
         }
-        lab.state(0, Lab.CLOSE_WAIT);
-        lab.state(1, Lab.FIN_2);
-        lab.is(0, Lab.NXT, 101);
     }
 
     private static void handshake() {

@@ -2,13 +2,16 @@ import java.util.ArrayList;
 import java.util.List;
 import java.util.Random;
 
-/** Long runs of calls, by fixed seeds, on WireHosts and on the Model: all that they answer is the same. */
+/**
+ * Runs of 512 calls, by fixed seeds, on WireHosts and on the Model: all that they answer is the same. Asking counts as
+ * a call too, so each step is followed by a few questions, and the last calls of a run ask for as much as they can.
+ */
 public final class ModelTest {
-    private static final int RUNS = 1200;
-    private static final int CALLS = 512;
+    private static final int RUNS = 16000;
+    private static final int CALLS_FOR_THE_END = 160;
 
     private final Random random;
-    private final WireHosts real = new WireHosts();
+    private final Counted real = new Counted();
     private final Model model = new Model();
     private final List<String> told = new ArrayList<>();
     private boolean differs = false;
@@ -35,16 +38,19 @@ public final class ModelTest {
     }
 
     private void play(int mood, int[] seen) {
-        while (told.size() < CALLS && !differs) {
+        while (real.callsLeft() > CALLS_FOR_THE_END && !differs) {
             step(mood);
-            if (!differs) {
-                compareAll();
+            for (int i = pick(4); i > 0 && !differs && real.callsLeft() > 0; i--) {
+                askOne();
             }
             for (int h = 0; h < 2; h++) {
                 for (int p = 1; p <= 2; p++) {
-                    seen[real.socket(h, p, 0)]++;
+                    seen[model.socket(h, p, 0)]++;
                 }
             }
+        }
+        if (!differs) {
+            askAll();
         }
     }
 
@@ -129,10 +135,10 @@ public final class ModelTest {
 
     /** Changes a field of the first frame and makes its checksums right again, so that the change gets through. */
     private void forge(int h) {
-        int[] frame = Frames.read(real, h, 0);
-        if (frame.length == 0) {
+        if (model.flying(h) == 0) {
             return;
         }
+        int[] frame = model.way.get(h).get(0).clone();
         int[] wanted = frame.clone();
         if (frame[2] == 8 && frame.length >= 23 && frame[7] == 6 && pick(5) > 0) {
             forgeSegment(h, wanted);
@@ -153,10 +159,10 @@ public final class ModelTest {
         int p = f[13] == 2 ? 2 : 1;
         switch (pick(7)) {
             case 0 -> f[14] = new int[] {0, 1, 2, 3, 4, 16, 17, 18, 19, 20, 21, 8, 24}[pick(13)];
-            case 1 -> Frames.putPair(f, 15, real.socket(h, p, 3) + pick(60) - 30);
-            case 2 -> Frames.putPair(f, 17, real.socket(h, p, 1 + pick(2)) + pick(9) - 4);
+            case 1 -> Frames.putPair(f, 15, model.socket(h, p, 3) + pick(60) - 30);
+            case 2 -> Frames.putPair(f, 17, model.socket(h, p, 1 + pick(2)) + pick(9) - 4);
             case 3 -> f[19] = pick(3) == 0 ? pick(256) : pick(60);
-            case 4 -> Frames.putPair(f, 17, real.socket(h, p, 2) + 32760 + pick(16));
+            case 4 -> Frames.putPair(f, 17, model.socket(h, p, 2) + 32760 + pick(16));
             case 5 -> Frames.putPair(f, 15, 65536 - pick(40));
             default -> f[13 + pick(f.length - 13)] ^= 1 << pick(8);
         }
@@ -172,28 +178,56 @@ public final class ModelTest {
         }
     }
 
-    private void compareAll() {
+    /** One question, mostly about what there is. */
+    private void askOne() {
+        int h = near(0, 1);
+        switch (pick(4)) {
+            case 0 -> askSocket(h, near(1, 2), near(0, 10));
+            case 1 -> askHost(h, near(0, 7));
+            case 2 -> askFlying(h);
+            default -> {
+                int k = Math.max(0, model.flying(h) - 1 - pick(3));
+                askOctet(h, pick(40) == 0 ? near(0, 15) : k, near(-1, 36));
+            }
+        }
+    }
+
+    /** All numbers of sockets and hosts, then the frames on the way, the latest first, as far as calls are left. */
+    private void askAll() {
         for (int h = 0; h < 2; h++) {
-            same("flying " + h, real.flying(h), model.flying(h));
+            askFlying(h);
             for (int what = 0; what < 8; what++) {
-                same("host " + h + " " + what, real.host(h, what), model.host(h, what));
+                askHost(h, what);
             }
             for (int p = 1; p <= 2; p++) {
                 for (int what = 0; what < 11; what++) {
-                    same("socket " + h + " " + p + " " + what, real.socket(h, p, what), model.socket(h, p, what));
+                    askSocket(h, p, what);
                 }
             }
-            for (int k = 0; k < 16; k++) {
-                for (int i = -1; i <= model.octet(h, k, -1); i++) {
-                    same("octet " + h + " " + k + " " + i, real.octet(h, k, i), model.octet(h, k, i));
+        }
+        for (int back = 1; back <= 16; back++) {
+            for (int h = 0; h < 2; h++) {
+                int k = model.flying(h) - back;
+                for (int i = -1; i < model.octet(h, k, -1) && real.callsLeft() > 0; i++) {
+                    askOctet(h, k, i);
                 }
             }
         }
     }
 
-    private void same(String what, int got, int want) {
-        if (got != want) {
-            answer(what, got, want);
-        }
+    private void askSocket(int h, int p, int what) {
+        answer("socket " + h + " " + p + " " + what, real.socket(h, p, what), model.socket(h, p, what));
+    }
+
+    private void askHost(int h, int what) {
+        answer("host " + h + " " + what, real.host(h, what), model.host(h, what));
+    }
+
+    private void askFlying(int h) {
+        answer("flying " + h, real.flying(h), model.flying(h));
+    }
+
+    private void askOctet(int h, int k, int i) {
+        answer("octet " + h + " " + k + " " + i, real.octet(h, k, i), model.octet(h, k, i));
     }
 }

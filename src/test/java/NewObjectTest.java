@@ -2,7 +2,7 @@
 public final class NewObjectTest {
     public static void main(String[] args) {
         Due due = new Due();
-        WireHosts x = new WireHosts();
+        Counted x = new Counted();
         for (int h = 0; h < 2; h++) {
             due.is("flying", x.flying(h), 0);
             due.is("octet", x.octet(h, 0, 0), -1);
@@ -26,8 +26,8 @@ public final class NewObjectTest {
     }
 
     private static void twoObjectsAreApart(Due due) {
-        WireHosts one = new WireHosts();
-        WireHosts two = new WireHosts();
+        Counted one = new Counted();
+        Counted two = new Counted();
         one.ping(0, 1, 1);
         one.listen(0, 1);
         one.tick(5);

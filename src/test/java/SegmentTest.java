@@ -1,624 +1,350 @@
-/** What a segment does when it arrives, state by state (promise 9, and all that carry leads to). */
+/** Terms: the form of segments, and what one does when it arrives in CLOSED, LISTEN, SYN SENT and SYN GOT. */
 public final class SegmentTest {
-    private static final int A = Lab.ACK;
+    private static final int A = Lab.ACK, S = Lab.SYN, R = Lab.RST, F = Lab.FIN;
     private static final Due due = new Due();
 
     public static void main(String[] args) {
-        wrongSegments();
+        wholeFrame();
+        tenBytesAtLeast();
+        fortyTwoBytesAtMost();
+        otherFlags();
+        allRightFlags();
+        noSuchSocket();
+        wrongChecks();
+        checkOverAddressesAndLength();
+        byteSevenDoesNotMatter();
         closed();
-        listening();
-        synSentRefuses();
+        closedLengthGoesRound();
+        listenIsSilent();
+        listenRefusesAck();
+        listenBegins();
+        synSentAckNumbers();
+        synSentRst();
+        synSentIgnores();
         synSentOpens();
-        synGot();
-        fitting();
-        fittingWithoutRoom();
-        rstAndSyn();
-        withoutAck();
-        ackNumbers();
-        earlyBytes();
-        bytesOverlap();
-        bytesBeyondRoom();
-        numbersWrap();
-        finEarly();
-        finIsReplaced();
-        finBehindBytes();
-        finOnFullRoom();
-        finOneAndTwo();
-        closeWaitTakesNoData();
-        timeState();
-        lastState();
-        endingOpenToLast();
-        pushAfterConfirmation();
-        sizesOfSegments();
-        pieceSegments();
+        synSentMeetsSyn();
+        synGotAckNumbers();
+        synGotOpensWithAll();
+        synGotOthers();
         due.end();
     }
 
-    private static void wrongSegments() {
+    private static void wholeFrame() {
         Lab lab = new Lab(due).open();
-        int[] right = Lab.segmentFrame(1, 1, A, 101, 1101, 24, 65);
-        int[][] changes = {{13, 0}, {13, 3}, {14, 24}, {14, 48}, {14, 80}, {14, 144}};
-        for (int[] change : changes) {
-            int[] f = right.clone();
-            f[change[0]] = change[1];
-            Frames.seal(f);
-            lab.arrive(1, f);
-            lab.is(1, Lab.IN, 0);
-        }
-        int[] wrongCheck = right.clone();
-        wrongCheck[22] ^= 1;
-        lab.arrive(1, wrongCheck);
-        lab.is(1, Lab.IN, 0);
-        // Nine bytes are no segment, even with a right check.
-        int[] nine = {1, A, 0, 101, 4, 77, 99, 0, 0};
-        Frames.putPair(nine, 4, 1101 + Model.check(Model.join(new int[] {1, 2, 6, 9}, nine)));
-        due.is("its check", Model.check(Model.join(new int[] {1, 2, 6, 9}, nine)), 0);
-        lab.arrive(1, Lab.packet(1, 0, 0, 6, nine));
-        lab.is(1, Lab.WIN, 24);
-        lab.went(0, "");
-        right[20] = 99;
-        Frames.seal(right);
-        lab.arrive(1, right);
-        lab.is(1, Lab.IN, 1);
-        lab.went(0, "A 1101 102 23");
+        int ident = lab.x.host(0, Lab.IDENT);
+        lab.x.send(0, 1, 200);
+        int[] want = {17, 16, 8, 21, ident, 0, 64, 6, 0, 0, 0, 1, 2, 1, 16, 0, 101, 4, 77, 24, 0, 0, 0, 200};
+        Frames.seal(want);
+        lab.frameIs(1, 0, want);
     }
 
-    private static void closed() {
-        Lab lab = new Lab(due).meet();
-        lab.segment(1, Lab.SYN, 500, 0, 24);
-        lab.went(0, "RA 0 501 24");
-        lab.segment(1, Lab.SYN + Lab.FIN + A, 65534, 77, 24, 1, 2, 3);
-        lab.went(0, "RA 77 3 24");
-        lab.segment(1, 0, 7, 8, 24);
-        lab.went(0, "RA 8 7 24");
-        lab.segment(1, Lab.RST, 7, 8, 24);
-        lab.segment(1, Lab.RST + A, 7, 8, 24);
-        lab.went(0, "");
-        lab.state(1, Lab.CLOSED);
-        lab.is(1, Lab.RCV, 0);
-    }
-
-    private static void listening() {
-        Lab lab = new Lab(due).meet();
-        lab.x.listen(1, 1);
-        lab.segment(1, Lab.RST + Lab.SYN + A, 7, 8, 24);
-        lab.segment(1, Lab.FIN, 7, 8, 24);
-        lab.segment(1, 0, 7, 8, 24, 1, 2);
-        lab.went(0, "");
-        lab.segment(1, A + Lab.SYN, 7, 888, 24);
-        lab.went(0, "R 888 0 24");
-        lab.state(1, Lab.LISTEN);
-        lab.is(1, Lab.TIMER, 0);
-        lab.x.tick(6);
-        lab.segment(1, Lab.SYN + Lab.FIN, 65535, 8, 17, 1, 2);
-        lab.went(0, "SA 1106 0 24");
-        lab.state(1, Lab.SYN_GOT);
-        lab.is(1, Lab.RCV, 0);
-        lab.is(1, Lab.WIN, 17);
-        lab.is(1, Lab.UNA, 1106);
-        lab.is(1, Lab.NXT, 1107);
-        lab.is(1, Lab.TIMER, 4);
-        lab.is(1, Lab.IN, 0);
-    }
-
-    private static void synSentRefuses() {
-        Lab lab = new Lab(due).meet();
-        lab.x.connect(0, 1);
-        lab.drop(1);
-        lab.segment(0, Lab.SYN + A, 500, 100, 24);
-        lab.went(1, "R 100 0 24");
-        lab.segment(0, A, 500, 102, 24);
-        lab.went(1, "R 102 0 24");
-        lab.segment(0, Lab.RST + A, 500, 102, 24);
-        lab.segment(0, Lab.RST, 500, 101, 24);
-        lab.segment(0, Lab.RST + Lab.SYN, 500, 101, 24);
-        lab.segment(0, A, 500, 101, 24);
-        lab.segment(0, Lab.FIN, 500, 101, 24);
-        lab.went(1, "");
-        lab.state(0, Lab.SYN_SENT);
-        lab.is(0, Lab.RCV, 0);
-        lab.segment(0, Lab.RST + A, 500, 101, 24);
-        lab.state(0, Lab.CLOSED);
-        lab.went(1, "");
-    }
-
-    private static void synSentOpens() {
-        Lab lab = new Lab(due).meet();
-        lab.x.connect(0, 1);
-        lab.x.tick(4);
-        lab.drop(1);
-        lab.is(0, Lab.TRIES, 1);
-        lab.segment(0, Lab.SYN + A + Lab.FIN, 500, 101, 99, 1, 2);
-        lab.went(1, "A 101 501 24");
-        int[] want = {Lab.OPEN, 101, 101, 501, 99, 0, 0, 0, 4, 0, 0};
-        for (int what = 0; what < want.length; what++) {
-            lab.is(0, what, want[what]);
-        }
-        lab = new Lab(due).meet();
-        lab.x.connect(0, 1);
-        lab.x.tick(5);
-        lab.drop(1);
-        lab.segment(0, Lab.SYN, 500, 9, 99);
-        lab.went(1, "SA 100 501 24");
-        want = new int[] {Lab.SYN_GOT, 100, 101, 501, 99, 0, 0, 7, 8, 1, 0};
-        for (int what = 0; what < want.length; what++) {
-            lab.is(0, what, want[what]);
-        }
-    }
-
-    private static Lab inSynGot() {
-        Lab lab = new Lab(due).meet();
-        lab.x.listen(1, 1);
-        lab.x.connect(0, 1);
-        lab.x.carry(1);
-        lab.drop(0);
-        lab.state(1, Lab.SYN_GOT);
-        return lab;
-    }
-
-    private static void synGot() {
-        Lab lab = inSynGot();
-        lab.segment(1, A, 101, 1102, 24);
-        lab.went(0, "R 1102 101 24");
-        lab.segment(1, A, 101, 1100, 24, 5);
-        lab.went(0, "R 1100 101 24");
-        lab.state(1, Lab.SYN_GOT);
-        lab.segment(1, Lab.SYN, 100, 0, 24);
-        lab.went(0, "A 1101 101 24");
-        lab.segment(1, 0, 101, 1101, 24);
-        lab.went(0, "");
-        lab.state(1, Lab.SYN_GOT);
-        lab.x.tick(4);
-        lab.drop(0);
-        // Data and FIN may come with the ACK that opens.
-        lab.segment(1, A + Lab.FIN, 101, 1101, 7, 5, 6);
-        lab.state(1, Lab.CLOSE_WAIT);
-        lab.went(0, "A 1101 104 22");
-        lab.is(1, Lab.UNA, 1101);
-        lab.is(1, Lab.WIN, 7);
-        lab.is(1, Lab.TRIES, 0);
-        lab.is(1, Lab.RTO, 4);
-        lab.is(1, Lab.TIMER, 0);
-        lab = inSynGot();
-        lab.segment(1, Lab.RST, 101, 0, 0);
-        lab.state(1, Lab.CLOSED);
-        lab.went(0, "");
-    }
-
-    private static void fitting() {
-        Lab lab = new Lab(due).open();
-        // No length: SEQ from RCV to RCV + 23.
-        lab.segment(1, A, 101, 1101, 1);
-        lab.is(1, Lab.WIN, 1);
-        lab.segment(1, A, 124, 1101, 2);
-        lab.is(1, Lab.WIN, 2);
-        lab.went(0, "");
-        lab.segment(1, A, 125, 1101, 3);
-        lab.segment(1, A, 100, 1101, 3);
-        lab.is(1, Lab.WIN, 2);
-        lab.went(0, "A 1101 101 24; A 1101 101 24");
-        // With length: the first or the last number.
-        lab.segment(1, A, 99, 1101, 4, 1, 2);
-        lab.is(1, Lab.WIN, 2);
-        lab.segment(1, A, 125, 1101, 4, 1, 2);
-        lab.is(1, Lab.WIN, 2);
-        lab.drop(0);
-        lab.segment(1, A, 124, 1101, 5, 1, 2);
-        lab.is(1, Lab.WIN, 5);
-        lab.segment(1, A, 99, 1101, 6, 1, 2, 3);
-        lab.is(1, Lab.WIN, 6);
-        lab.is(1, Lab.IN, 1);
-        due.is("the byte that is due", lab.x.read(1, 1), 3);
-    }
-
-    private static void fittingWithoutRoom() {
-        Lab lab = new Lab(due).open();
-        lab.fill(1, 24);
-        lab.drop(0);
-        lab.segment(1, A, 125, 1101, 9);
-        lab.is(1, Lab.WIN, 9);
-        lab.went(0, "");
-        lab.segment(1, A, 125, 1101, 8, 1);
-        lab.is(1, Lab.WIN, 9);
-        lab.went(0, "A 1101 125 0");
-        lab.segment(1, A, 126, 1101, 8);
-        lab.is(1, Lab.WIN, 9);
-        lab.went(0, "A 1101 125 0");
-        lab.segment(1, A + Lab.FIN, 125, 1101, 8);
-        lab.state(1, Lab.OPEN);
-        lab.went(0, "A 1101 125 0");
-    }
-
-    private static void rstAndSyn() {
-        Lab lab = new Lab(due).open();
-        lab.segment(1, Lab.RST, 125, 0, 0);
-        lab.segment(1, Lab.RST, 100, 0, 0);
-        lab.went(0, "");
-        lab.state(1, Lab.OPEN);
-        lab.segment(1, Lab.RST + A, 124, 1, 9, 5);
-        lab.state(1, Lab.CLOSED);
-        lab.is(1, Lab.WIN, 0);
-        lab.went(0, "");
-
-        lab = new Lab(due).open();
-        lab.segment(1, Lab.SYN + A, 100, 1101, 24);
-        lab.went(0, "A 1101 101 24");
-        lab.x.send(1, 1, 1);
-        lab.drop(0);
-        lab.segment(1, Lab.SYN, 101, 1101, 24);
-        lab.went(0, "R 1102 101 24");
-        lab.state(1, Lab.CLOSED);
-    }
-
-    private static void withoutAck() {
-        Lab lab = new Lab(due).open();
-        lab.segment(1, 0, 101, 1101, 3, 1, 2);
-        lab.segment(1, Lab.FIN, 101, 1101, 3);
-        lab.went(0, "");
-        lab.state(1, Lab.OPEN);
-        lab.is(1, Lab.IN, 0);
-        lab.is(1, Lab.WIN, 24);
-    }
-
-    private static void ackNumbers() {
-        Lab lab = new Lab(due).open();
-        for (int i = 0; i < 4; i++) {
-            lab.x.send(0, 1, i);
-        }
-        lab.drop(1);
-        lab.x.tick(1);
-        lab.segment(0, A, 1101, 106, 9, 1);
-        lab.went(1, "A 105 1101 24");
-        lab.is(0, Lab.WIN, 24);
-        lab.is(0, Lab.IN, 0);
-        lab.segment(0, A, 1101, 105 + 32767, 9);
-        lab.went(1, "A 105 1101 24");
-        lab.is(0, Lab.WIN, 24);
-        // Further on it counts as old: nothing is confirmed, the rest is taken.
-        lab.segment(0, A, 1101, 105 + 32768, 9, 1);
-        lab.went(1, "A 105 1102 23");
-        lab.is(0, Lab.WIN, 9);
-        lab.is(0, Lab.UNA, 101);
-        lab.segment(0, A, 1102, 100, 10);
-        lab.is(0, Lab.WIN, 10);
-        lab.is(0, Lab.TIMER, 3);
-        lab.segment(0, A, 1102, 103, 11);
-        lab.is(0, Lab.UNA, 103);
-        lab.is(0, Lab.OUT, 2);
-        lab.is(0, Lab.TIMER, 4);
-        lab.segment(0, A, 1102, 105, 11);
-        lab.is(0, Lab.UNA, 105);
-        lab.is(0, Lab.OUT, 0);
-        lab.is(0, Lab.TIMER, 0);
-        lab.went(1, "");
-    }
-
-    private static void earlyBytes() {
-        Lab lab = new Lab(due).open();
-        lab.segment(1, A, 103, 1101, 24, 3, 4);
-        lab.went(0, "A 1101 101 24");
-        lab.is(1, Lab.IN, 0);
-        lab.segment(1, A, 106, 1101, 24, 6);
-        lab.segment(1, A, 101, 1101, 24, 1);
-        lab.drop(0);
-        lab.is(1, Lab.IN, 1);
-        lab.segment(1, A, 102, 1101, 24, 2);
-        lab.went(0, "A 1101 105 20");
-        lab.segment(1, A, 105, 1101, 24, 5);
-        lab.went(0, "A 1101 107 18");
-        for (int i = 1; i <= 6; i++) {
-            due.is("byte " + i, lab.x.read(1, 1), i);
-        }
-        // What was kept is gone with the connection.
-        lab.segment(1, A, 109, 1101, 24, 9);
-        lab.segment(1, A + Lab.FIN, 110, 1101, 24);
-        lab.x.abort(1, 1);
-        lab.x.listen(1, 1);
-        lab.segment(1, Lab.SYN, 106, 0, 24);
-        lab.segment(1, A, 107, 1101, 24, 7, 8);
-        lab.state(1, Lab.OPEN);
-        lab.is(1, Lab.IN, 2);
-        lab.segment(1, A, 109, 1101, 24, 19);
-        lab.state(1, Lab.OPEN);
-        lab.is(1, Lab.IN, 3);
-    }
-
-    private static void bytesOverlap() {
-        Lab lab = new Lab(due).open();
-        lab.segment(1, A, 103, 1101, 24, 3, 4);
-        lab.segment(1, A, 102, 1101, 24, 12, 13, 14, 15);
-        lab.segment(1, A, 101, 1101, 24, 1, 22, 23);
-        int[] want = {1, 12, 3, 4, 15, -1};
-        for (int v : want) {
-            due.is("the byte that came first", lab.x.read(1, 1), v);
-        }
-        lab.drop(0);
-        lab.segment(1, A, 101, 1101, 24, 9, 9, 9, 9, 9);
-        lab.went(0, "A 1101 106 24");
-        due.is("old bytes", lab.x.read(1, 1), -1);
-    }
-
-    private static void bytesBeyondRoom() {
-        Lab lab = new Lab(due).open();
-        lab.fill(1, 20);
-        lab.drop(0);
-        lab.segment(1, A, 121, 1101, 24, 1, 2, 3, 4, 5, 6);
-        lab.went(0, "A 1101 125 0");
-        lab.is(1, Lab.IN, 24);
-        lab.x.read(1, 1);
-        lab.drop(0);
-        lab.segment(1, A, 125, 1101, 24, 50, 60);
-        lab.went(0, "A 1101 126 0");
-        for (int i = 0; i < 23; i++) {
-            lab.x.read(1, 1);
-        }
-        due.is("the byte that came when there was room", lab.x.read(1, 1), 50);
-        due.is("no more", lab.x.read(1, 1), -1);
-    }
-
-    private static void numbersWrap() {
-        Lab lab = new Lab(due).meet();
-        lab.x.listen(1, 1);
-        lab.segment(1, Lab.SYN, 65530, 0, 24);
-        lab.went(0, "SA 1100 65531 24");
-        lab.segment(1, A, 65531, 1101, 24);
-        lab.state(1, Lab.OPEN);
-        lab.segment(1, A, 2, 1101, 24, 7, 8);
-        lab.went(0, "A 1101 65531 24");
-        lab.segment(1, A, 65529, 1101, 24, 98, 99, 0, 1, 2, 3, 4, 5, 6);
-        lab.went(0, "A 1101 4 15");
-        for (int i = 0; i < 9; i++) {
-            due.is("byte " + i, lab.x.read(1, 1), i);
-        }
-        lab.segment(1, A + Lab.FIN, 4, 1101, 24);
-        lab.state(1, Lab.CLOSE_WAIT);
-        lab.is(1, Lab.RCV, 5);
-        // 0 is a number like others, not "no FIN".
-        lab = new Lab(due).meet();
-        lab.x.listen(1, 1);
-        lab.segment(1, Lab.SYN, 65533, 0, 24);
-        lab.segment(1, A, 65534, 1101, 24, 1, 2);
-        lab.state(1, Lab.OPEN);
-        lab.is(1, Lab.RCV, 0);
-        lab = new Lab(due).meet();
-        lab.x.listen(1, 1);
-        lab.segment(1, Lab.SYN, 65533, 0, 24);
-        lab.drop(0);
-        lab.segment(1, A + Lab.FIN, 65534, 1101, 24, 1);
-        lab.state(1, Lab.CLOSE_WAIT);
-        lab.is(1, Lab.RCV, 0);
-        lab.went(0, "A 1101 0 23");
-    }
-
-    private static void finEarly() {
-        Lab lab = new Lab(due).open();
-        lab.segment(1, A + Lab.FIN, 103, 1101, 24, 3);
-        lab.went(0, "A 1101 101 24");
-        lab.state(1, Lab.OPEN);
-        lab.segment(1, A, 101, 1101, 24, 1, 2);
-        lab.went(0, "A 1101 105 21");
-        lab.state(1, Lab.CLOSE_WAIT);
-        due.is("byte", lab.x.read(1, 1), 1);
-        due.is("byte", lab.x.read(1, 1), 2);
-        due.is("byte", lab.x.read(1, 1), 3);
-    }
-
-    private static void finIsReplaced() {
-        Lab lab = new Lab(due).open();
-        lab.segment(1, A + Lab.FIN, 103, 1101, 24);
-        lab.segment(1, A + Lab.FIN, 105, 1101, 24);
-        lab.segment(1, A, 101, 1101, 24, 1, 2);
-        lab.state(1, Lab.OPEN);
-        lab.is(1, Lab.RCV, 103);
-        lab.segment(1, A, 103, 1101, 24, 3, 4);
-        lab.state(1, Lab.CLOSE_WAIT);
-        lab.is(1, Lab.RCV, 106);
-    }
-
-    private static void finBehindBytes() {
-        Lab lab = new Lab(due).open();
-        // Bytes go IN as far as they go; a FIN that lies below is passed by.
-        lab.segment(1, A + Lab.FIN, 102, 1101, 24);
-        lab.segment(1, A, 101, 1101, 24, 1, 2, 3);
-        lab.state(1, Lab.OPEN);
-        lab.is(1, Lab.RCV, 104);
-        lab.is(1, Lab.IN, 3);
-    }
-
-    private static void finOnFullRoom() {
-        Lab lab = new Lab(due).open();
-        lab.fill(1, 20);
-        lab.drop(0);
-        lab.segment(1, A + Lab.FIN, 121, 1101, 24, 1, 2, 3, 4, 5);
-        lab.state(1, Lab.OPEN);
-        lab.is(1, Lab.RCV, 125);
-        // That FIN was not kept: its number comes, and nothing ends.
-        lab.x.read(1, 1);
-        lab.segment(1, A, 125, 1101, 24, 5);
-        lab.is(1, Lab.RCV, 126);
-        lab.state(1, Lab.OPEN);
-        lab = new Lab(due).open();
-        lab.fill(1, 20);
-        lab.drop(0);
-        lab.segment(1, A + Lab.FIN, 121, 1101, 24, 1, 2, 3, 4);
-        lab.state(1, Lab.CLOSE_WAIT);
-        lab.went(0, "A 1101 126 0");
-        lab.is(1, Lab.RCV, 126);
-        // Four is the room: a FIN at its end is kept, one behind it is not.
-        lab = new Lab(due).open();
-        lab.fill(1, 20);
-        lab.segment(1, A + Lab.FIN, 124, 1101, 24, 4);
-        lab.segment(1, A, 121, 1101, 24, 1, 2, 3);
-        lab.state(1, Lab.CLOSE_WAIT);
-    }
-
-    private static void finOneAndTwo() {
-        Lab lab = new Lab(due).open();
-        lab.x.close(0, 1);
-        lab.drop(1);
-        lab.segment(0, A + Lab.FIN, 1101, 101, 24, 5);
-        lab.state(0, Lab.BOTH);
-        lab.went(1, "A 102 1103 23");
-        lab.is(0, Lab.TIMER, 4);
-        lab.segment(0, A, 1103, 101, 24, 6);
-        lab.state(0, Lab.BOTH);
-        lab.went(1, "A 102 1103 23");
-        lab.is(0, Lab.IN, 1);
-        lab.segment(0, A, 1103, 102, 24);
-        lab.state(0, Lab.TIME);
-        lab.is(0, Lab.TIMER, 8);
-        lab.went(1, "");
-        due.is("TIME may still be read", lab.x.read(0, 1), 5);
-
-        // The FIN is confirmed and the other's comes in one segment.
-        lab = new Lab(due).open();
-        lab.x.close(0, 1);
-        lab.drop(1);
-        lab.segment(0, A + Lab.FIN, 1101, 102, 24);
-        lab.state(0, Lab.TIME);
-        lab.is(0, Lab.TIMER, 8);
-        lab.went(1, "A 102 1102 24");
-
-        lab = new Lab(due).open();
-        lab.x.close(0, 1);
-        lab.drop(1);
-        lab.segment(0, A, 1101, 102, 24, 1);
-        lab.state(0, Lab.FIN_2);
-        lab.is(0, Lab.TIMER, 0);
-        lab.went(1, "A 102 1102 23");
-        lab.x.tick(20);
-        lab.state(0, Lab.FIN_2);
-        lab.segment(0, A + Lab.FIN, 1102, 102, 24, 2);
-        lab.state(0, Lab.TIME);
-        lab.is(0, Lab.TIMER, 8);
-        lab.is(0, Lab.IN, 2);
-    }
-
-    private static void closeWaitTakesNoData() {
-        Lab lab = new Lab(due).halfClosed();
-        lab.segment(0, A, 1102, 101, 7, 1, 2);
-        lab.went(1, "A 101 1102 24");
-        lab.is(0, Lab.IN, 0);
-        lab.is(0, Lab.RCV, 1102);
-        lab.is(0, Lab.WIN, 7);
-        lab.segment(0, A + Lab.FIN, 1102, 101, 7);
-        lab.went(1, "A 101 1102 24");
-        lab.segment(0, A, 1102, 101, 8);
-        lab.went(1, "");
-        lab.is(0, Lab.WIN, 8);
-    }
-
-    private static Lab inTime() {
-        Lab lab = new Lab(due).halfClosed();
-        lab.x.close(0, 1);
-        lab.carryAll();
-        lab.state(1, Lab.TIME);
-        lab.x.tick(3);
-        lab.is(1, Lab.TIMER, 5);
-        return lab;
-    }
-
-    private static void timeState() {
-        Lab lab = inTime();
-        lab.segment(1, A, 102, 1102, 24);
-        lab.is(1, Lab.TIMER, 5);
-        lab.went(0, "");
-        lab.segment(1, A, 102, 1102, 24, 1);
-        lab.is(1, Lab.TIMER, 8);
-        lab.went(0, "A 1102 102 24");
-        lab.x.tick(2);
-        // The other's FIN once more does not fit.
-        lab.segment(1, A + Lab.FIN, 101, 1102, 24);
-        lab.is(1, Lab.TIMER, 8);
-        lab.went(0, "A 1102 102 24");
-        lab.x.tick(2);
-        lab.segment(1, Lab.RST, 101, 0, 0);
-        lab.is(1, Lab.TIMER, 8);
-        lab.went(0, "");
-        lab.x.tick(7);
-        lab.state(1, Lab.TIME);
-        lab.segment(1, Lab.RST, 102, 0, 0);
-        lab.state(1, Lab.CLOSED);
-    }
-
-    private static void lastState() {
-        Lab lab = new Lab(due).halfClosed();
-        lab.x.send(0, 1, 1);
-        lab.x.close(0, 1);
-        lab.drop(1);
-        lab.state(0, Lab.LAST);
-        lab.segment(0, A, 1102, 102, 24);
-        lab.state(0, Lab.LAST);
-        // LAST becomes CLOSED and nothing else: no ACK for what comes with it.
-        lab.segment(0, A, 1102, 103, 24, 7);
-        lab.state(0, Lab.CLOSED);
-        lab.went(1, "");
-    }
-
-    private static void endingOpenToLast() {
-        Lab lab = new Lab(due).open();
-        lab.segment(0, A, 1101, 101, 0);
-        lab.x.send(0, 1, 7);
-        lab.x.close(0, 1);
-        lab.segment(0, A + Lab.FIN, 1101, 101, 0);
-        lab.state(0, Lab.CLOSE_WAIT);
-        lab.is(0, Lab.ENDING, 1);
-        due.no("close again", lab.x.close(0, 1));
-        lab.drop(1);
-        lab.segment(0, A, 1102, 101, 5);
-        lab.went(1, "A 101 1102 24 :7; FA 102 1102 24");
-        lab.state(0, Lab.LAST);
-    }
-
-    private static void pushAfterConfirmation() {
-        Lab lab = new Lab(due).open();
-        lab.segment(0, A, 1101, 101, 2);
-        for (int i = 0; i < 6; i++) {
-            lab.x.send(0, 1, i);
-        }
-        lab.drop(1);
-        lab.x.tick(2);
-        // Data are confirmed before the bytes that now may go.
-        lab.segment(0, A, 1101, 103, 3, 99);
-        lab.went(1, "A 103 1102 23; A 103 1102 23 :2 3 4");
-        lab.is(0, Lab.TIMER, 4);
-        lab.is(0, Lab.OUT, 4);
-    }
-
-    /** A segment for socket 1 of host 1 with so many bytes of data. */
-    private static int[] longSegment(int count) {
+    /** A message of a segment to socket 1 of host 1 with so many bytes of data, its checksum made. */
+    private static int[] message(int count) {
         int[] m = Model.join(new int[] {1, A, 0, 101, 4, 77, 24, 0, 0, 0}, Lab.bytes(1, count));
         Frames.putPair(m, 8, Model.check(Model.join(new int[] {1, 2, 6, m.length}, m)));
         return m;
     }
 
-    private static void sizesOfSegments() {
+    /** "10 bytes and at most 32 of data (10 to 42 bytes)": 9 are none, even with a right check */
+    private static void tenBytesAtLeast() {
+        int[] nine = {1, A, 0, 101, 4, 77, 99, 0, 0};
+        Frames.putPair(nine, 4, 1101 + Model.check(Model.join(new int[] {1, 2, 6, 9}, nine)));
+        due.is("its check", Model.check(Model.join(new int[] {1, 2, 6, 9}, nine)), 0);
         Lab lab = new Lab(due).open();
-        lab.twoPackets(1, 6, longSegment(33));
-        lab.is(1, Lab.IN, 0);
+        lab.arrive(1, Lab.packet(1, 0, 0, 6, nine));
+        lab.arrive(1, Lab.packet(1, 0, 0, 6, 1));
+        lab.is(1, Lab.WIN, 24);
         lab.went(0, "");
-        lab.twoPackets(1, 6, longSegment(32));
+        lab.segment(1, A, 101, 1101, 99);
+        lab.is(1, Lab.WIN, 99);
+        // The same in CLOSED, where every segment is answered.
+        lab = new Lab(due).meet();
+        lab.arrive(1, Lab.packet(1, 0, 0, 6, nine));
+        lab.went(0, "");
+        lab.segment(1, A, 101, 1101, 99);
+        lab.went(0, "RA 1101 101 24");
+    }
+
+    private static void fortyTwoBytesAtMost() {
+        for (int count = 33; count <= 38; count += 5) {
+            Lab lab = new Lab(due).open();
+            lab.twoPackets(1, 6, message(count));
+            lab.hostIs(1, Lab.SLOTS, 0);
+            lab.is(1, Lab.IN, 0);
+            lab.went(0, "");
+        }
+        Lab lab = new Lab(due).open();
+        lab.twoPackets(1, 6, message(32));
         lab.is(1, Lab.IN, 24);
         lab.went(0, "A 1101 125 0");
         due.is("the first byte", lab.x.read(1, 1), 1);
+        lab = new Lab(due).meet();
+        lab.twoPackets(1, 6, message(33));
+        lab.went(0, "");
+        lab.twoPackets(1, 6, message(32));
+        lab.went(0, "RA 1101 133 24");
     }
 
-    private static void pieceSegments() {
-        Lab lab = new Lab(due).open();
-        lab.segment(0, A, 1101, 101, 0);
-        for (int i = 0; i < 24; i++) {
-            lab.x.send(0, 1, i);
+    /** "with other flags .. are dropped" */
+    private static void otherFlags() {
+        for (int other : new int[] {8, 32, 64, 128}) {
+            Lab lab = new Lab(due).open();
+            for (int flags : new int[] {other, other + A, other + R, other + A + S + R + F}) {
+                lab.segment(1, flags, 101, 1101, 99, 65);
+            }
+            lab.is(1, Lab.IN, 0);
+            lab.is(1, Lab.WIN, 24);
+            lab.state(1, Lab.OPEN);
+            lab.went(0, "");
         }
-        lab.segment(0, A, 1101, 101, 24);
-        due.is("two packets", lab.x.flying(1), 2);
-        lab.x.disturb(1, 1);
-        lab.x.carry(1);
-        lab.is(1, Lab.IN, 0);
-        lab.x.carry(1);
-        lab.is(1, Lab.IN, 24);
-        lab.went(0, "A 1101 125 0");
-        for (int i = 0; i < 24; i++) {
-            due.is("byte " + i, lab.x.read(1, 1), i);
+        Lab lab = new Lab(due).meet();
+        lab.segment(1, A + 8, 101, 1101, 99);
+        lab.went(0, "");
+    }
+
+    /** "1 FIN, 2 SYN, 4 RST, 16 ACK, added up": each sum of these is right, and CLOSED answers those without RST */
+    private static void allRightFlags() {
+        for (int flags = 0; flags < 32; flags++) {
+            if ((flags & 8) == 0) {
+                Lab lab = new Lab(due).meet();
+                lab.segment(1, flags, 500, 700, 24);
+                int end = 500 + (flags & F) + (flags & S) / 2;
+                lab.went(0, (flags & R) != 0 ? "" : "RA 700 " + end + " 24");
+            }
         }
+    }
+
+    /** "or for no socket 1 or 2, are dropped" */
+    private static void noSuchSocket() {
+        Lab lab = new Lab(due).meet();
+        for (int p : new int[] {0, 3, 4, 129, 255}) {
+            lab.arrive(1, Lab.segmentFrame(1, p, A, 101, 1101, 24));
+        }
+        lab.went(0, "");
+        lab.arrive(1, Lab.segmentFrame(1, 2, A, 101, 1101, 24));
+        lab.went(0, "socket 2 RA 1101 101 24");
+        lab.arrive(1, Lab.segmentFrame(1, 1, A, 101, 1101, 24));
+        lab.went(0, "RA 1101 101 24");
+    }
+
+    private static void wrongChecks() {
+        for (int at = 13; at < 24; at++) {
+            Lab lab = new Lab(due).meet();
+            int[] f = Lab.segmentFrame(1, 1, A, 101, 1101, 24, 65);
+            f[at] ^= 2;
+            lab.arrive(1, f);
+            lab.went(0, "");
+        }
+    }
+
+    /** "the check of sender's address, address meant, 6, length, and the segment is 0" */
+    private static void checkOverAddressesAndLength() {
+        int[][] heads = {{}, {2, 1, 6, 11}, {1, 2, 6, 10}, {1, 2, 6, 12}, {1, 2, 6, 21}, {1, 2, 1, 11}, {0, 0, 6, 11},
+            {1, 2, 0, 0}};
+        Lab lab = new Lab(due).meet();
+        for (int[] head : heads) {
+            lab.arrive(1, checkedWith(head));
+        }
+        lab.went(0, "");
+        lab.arrive(1, checkedWith(new int[] {1, 2, 6, 11}));
+        lab.went(0, "RA 1101 102 24");
+    }
+
+    private static int[] checkedWith(int[] head) {
+        int[] m = {1, A, 0, 101, 4, 77, 24, 0, 0, 0, 65};
+        int check = Model.check(Model.join(head, m));
+        int[] f = Lab.packet(1, 0, 0, 6, m);
+        Frames.putPair(f, 21, check);
+        return f;
+    }
+
+    /** "(byte 7 does not matter)" */
+    private static void byteSevenDoesNotMatter() {
+        for (int value : new int[] {1, 99, 255}) {
+            Lab lab = new Lab(due).open();
+            int[] f = Lab.segmentFrame(1, 1, A, 101, 1101, 24, 65);
+            f[20] = value;
+            Frames.seal(f);
+            lab.arrive(1, f);
+            lab.is(1, Lab.IN, 1);
+            lab.went(0, "A 1101 102 23");
+        }
+    }
+
+    /** "CLOSED: nothing for RST; else RST + ACK goes with its ACK number as SEQ and SEQ + LEN as ACK number." */
+    private static void closed() {
+        Lab lab = new Lab(due).meet();
+        lab.segment(1, S, 500, 0, 24);
+        lab.went(0, "RA 0 501 24");
+        lab.segment(1, F, 500, 0, 24);
+        lab.went(0, "RA 0 501 24");
+        lab.segment(1, A, 500, 7, 24, 1, 2, 3);
+        lab.went(0, "RA 7 503 24");
+        lab.segment(1, 0, 7, 8, 24);
+        lab.went(0, "RA 8 7 24");
+        lab.segment(1, R, 7, 8, 24);
+        lab.segment(1, R + A, 7, 8, 24);
+        lab.segment(1, R + S + F, 7, 8, 24, 1);
+        lab.went(0, "");
+        lab.socketIs(1, 0, 0, 0, 0, 0, 0, 0, 0, 4, 0, 0);
+    }
+
+    private static void closedLengthGoesRound() {
+        Lab lab = new Lab(due).meet();
+        lab.segment(1, S + F + A, 65534, 77, 24, 1, 2, 3);
+        lab.went(0, "RA 77 3 24");
+        lab.segment(1, S, 65535, 65535, 24);
+        lab.went(0, "RA 65535 0 24");
+        lab.segment(1, A, 65535, 1, 24);
+        lab.went(0, "RA 1 65535 24");
+    }
+
+    /** "LISTEN: RST: nothing; .. else nothing" */
+    private static void listenIsSilent() {
+        Lab lab = new Lab(due).in(Lab.LISTEN);
+        lab.segment(0, R, 7, 8, 24);
+        lab.segment(0, R + S + A, 7, 8, 24);
+        lab.segment(0, R + S, 7, 8, 24);
+        lab.segment(0, F, 7, 8, 24);
+        lab.segment(0, 0, 7, 8, 24, 1, 2);
+        lab.went(1, "");
+        lab.socketIs(0, Lab.LISTEN, 0, 0, 0, 0, 0, 0, 0, 4, 0, 0);
+    }
+
+    /** "ACK: RST goes with its ACK number as SEQ" */
+    private static void listenRefusesAck() {
+        Lab lab = new Lab(due).in(Lab.LISTEN);
+        lab.segment(0, A + S, 7, 888, 24);
+        lab.went(1, "R 888 0 24");
+        lab.segment(0, A + F, 7, 65535, 24, 1);
+        lab.went(1, "R 65535 0 24");
+        lab.socketIs(0, Lab.LISTEN, 0, 0, 0, 0, 0, 0, 0, 4, 0, 0);
+    }
+
+    /** "SYN: begin; RCV is SEQ + 1, WIN its window, SYN GOT; SYN + ACK with SEQ FIRST goes" */
+    private static void listenBegins() {
+        Lab lab = new Lab(due).in(Lab.LISTEN);
+        lab.x.tick(6);
+        // Data and FIN of it do nothing; RCV goes round.
+        lab.segment(0, S + F, 65535, 8, 17, 1, 2);
+        lab.went(1, "SA 106 0 24");
+        lab.socketIs(0, Lab.SYN_GOT, 106, 107, 0, 17, 0, 0, 4, 4, 0, 0);
+        lab = new Lab(due).in(Lab.LISTEN);
+        lab.segment(0, S, 65534, 8, 0);
+        lab.went(1, "SA 100 65535 24");
+        lab.is(0, Lab.RCV, 65535);
+        lab.is(0, Lab.WIN, 0);
+    }
+
+    /** "with ACK and another ACK number than NXT: RST goes with that as SEQ (not for RST), and nothing else" */
+    private static void synSentAckNumbers() {
+        Lab lab = new Lab(due).in(Lab.SYN_SENT);
+        lab.segment(0, S + A, 500, 100, 24);
+        lab.went(1, "R 100 0 24");
+        lab.segment(0, A, 500, 102, 24);
+        lab.went(1, "R 102 0 24");
+        lab.segment(0, S + A, 500, 0, 24);
+        lab.went(1, "R 0 0 24");
+        lab.segment(0, R + A, 500, 100, 24);
+        lab.segment(0, R + A, 500, 102, 24);
+        lab.segment(0, R + S + A, 500, 102, 24);
+        lab.went(1, "");
+        lab.socketIs(0, Lab.SYN_SENT, 100, 101, 0, 0, 0, 0, 4, 4, 0, 0);
+    }
+
+    /** "RST: CLOSED if it has ACK, else nothing." */
+    private static void synSentRst() {
+        Lab lab = new Lab(due).in(Lab.SYN_SENT);
+        lab.segment(0, R, 500, 101, 24);
+        lab.segment(0, R + S, 500, 101, 24);
+        lab.state(0, Lab.SYN_SENT);
+        lab.segment(0, R + A, 500, 101, 24);
+        lab.socketIs(0, 0, 0, 0, 0, 0, 0, 0, 0, 4, 0, 0);
+        lab.went(1, "");
+        lab = new Lab(due).in(Lab.SYN_SENT);
+        lab.segment(0, R + S + A, 500, 101, 24);
+        lab.state(0, Lab.CLOSED);
+        lab.went(1, "");
+    }
+
+    /** "Else nothing." */
+    private static void synSentIgnores() {
+        Lab lab = new Lab(due).in(Lab.SYN_SENT);
+        lab.segment(0, A, 500, 101, 24, 9);
+        lab.segment(0, F + A, 500, 101, 24);
+        lab.segment(0, F, 500, 101, 24);
+        lab.segment(0, 0, 500, 101, 24);
+        lab.went(1, "");
+        lab.socketIs(0, Lab.SYN_SENT, 100, 101, 0, 0, 0, 0, 4, 4, 0, 0);
+    }
+
+    /** "with ACK: UNA is NXT, TRIES are 0, the timer is off, RTO 4, OPEN, ACK goes, push" */
+    private static void synSentOpens() {
+        Lab lab = new Lab(due).in(Lab.SYN_SENT);
+        lab.x.tick(4);
+        lab.drop(1);
+        lab.is(0, Lab.TRIES, 1);
+        lab.is(0, Lab.RTO, 8);
+        lab.segment(0, S + A + F, 500, 101, 99, 1, 2);
+        lab.went(1, "A 101 501 24");
+        lab.socketIs(0, Lab.OPEN, 101, 101, 501, 99, 0, 0, 0, 4, 0, 0);
+        lab = new Lab(due).in(Lab.SYN_SENT);
+        lab.segment(0, S + A, 65535, 101, 0);
+        lab.went(1, "A 101 0 24");
+        lab.socketIs(0, Lab.OPEN, 101, 101, 0, 0, 0, 0, 0, 4, 0, 0);
+    }
+
+    /** "without: SYN GOT, and SYN + ACK with SEQ FIRST goes": the timer goes on */
+    private static void synSentMeetsSyn() {
+        Lab lab = new Lab(due).in(Lab.SYN_SENT);
+        lab.x.tick(5);
+        lab.drop(1);
+        lab.segment(0, S, 500, 9, 99, 1);
+        lab.went(1, "SA 100 501 24");
+        lab.socketIs(0, Lab.SYN_GOT, 100, 101, 501, 99, 0, 0, 7, 8, 1, 0);
+    }
+
+    /** "In SYN GOT: if its ACK number is NXT it is OPEN, else RST goes with that as SEQ, and nothing else." */
+    private static void synGotAckNumbers() {
+        Lab lab = new Lab(due).in(Lab.SYN_GOT);
+        for (int ack : new int[] {100, 102, 0, 65535}) {
+            lab.segment(0, A + F, 1101, ack, 99, 5);
+            lab.went(1, "R " + ack + " 1101 24");
+        }
+        lab.socketIs(0, Lab.SYN_GOT, 100, 101, 1101, 24, 0, 0, 4, 4, 0, 0);
+        lab.segment(0, A, 1101, 101, 99);
+        lab.went(1, "");
+        lab.socketIs(0, Lab.OPEN, 101, 101, 1101, 99, 0, 0, 0, 4, 0, 0);
+    }
+
+    private static void synGotOpensWithAll() {
+        Lab lab = new Lab(due).in(Lab.SYN_GOT);
+        lab.x.tick(4);
+        lab.drop(1);
+        lab.is(0, Lab.TRIES, 1);
+        lab.segment(0, A + F, 1101, 101, 7, 5, 6);
+        lab.went(1, "A 101 1104 22");
+        lab.socketIs(0, Lab.CLOSE_WAIT, 101, 101, 1104, 7, 0, 2, 0, 4, 0, 0);
+    }
+
+    private static void synGotOthers() {
+        Lab lab = new Lab(due).in(Lab.SYN_GOT);
+        // What does not fit is answered.
+        lab.segment(0, S, 1100, 0, 9);
+        lab.segment(0, A, 1125, 101, 9);
+        lab.went(1, "A 101 1101 24; A 101 1101 24");
+        // Without ACK nothing; a RST that does not fit does nothing.
+        lab.segment(0, 0, 1101, 101, 9);
+        lab.segment(0, F, 1101, 101, 9, 1);
+        lab.segment(0, R, 1100, 101, 9);
+        lab.went(1, "");
+        lab.socketIs(0, Lab.SYN_GOT, 100, 101, 1101, 24, 0, 0, 4, 4, 0, 0);
+        lab.segment(0, R, 1101, 0, 0);
+        lab.socketIs(0, 0, 0, 0, 0, 0, 0, 0, 0, 4, 0, 0);
+        lab.went(1, "");
+        lab = new Lab(due).in(Lab.SYN_GOT);
+        lab.segment(0, S + A, 1101, 101, 9);
+        lab.went(1, "R 101 1101 24");
+        lab.state(0, Lab.CLOSED);
     }
 }
