@@ -7,7 +7,7 @@ import java.util.Random;
  * a call too, so each step is followed by a few questions, and the last calls of a run ask for as much as they can.
  */
 public final class ModelTest {
-    private static final int RUNS = 16000;
+    private static final int RUNS = 32000;
     private static final int CALLS_FOR_THE_END = 160;
 
     private final Random random;
@@ -25,7 +25,10 @@ public final class ModelTest {
         int[] seen = new int[11];
         for (int seed = 0; seed < RUNS && due.wrong() < 3; seed++) {
             ModelTest run = new ModelTest(seed);
-            run.play(seed % 4, seen);
+            if (seed / 4 % 2 == 1) {
+                run.openFirst();
+            }
+            run.play(seed % 4, seed / 8 % 2 == 1, seen);
             due.no("seed " + seed + ": a difference after " + run.told.size() + " calls", run.differs);
             if (run.differs) {
                 run.told.forEach(System.out::println);
@@ -37,9 +40,19 @@ public final class ModelTest {
         due.end();
     }
 
-    private void play(int mood, int[] seen) {
+    /** Sockets 1 become OPEN, so that what comes then is met in time. */
+    private void openFirst() {
+        answer("listen 1 1", bit(real.listen(1, 1)), bit(model.listen(1, 1)));
+        answer("connect 0 1", bit(real.connect(0, 1)), bit(model.connect(0, 1)));
+        for (int i = 0; i < 5; i++) {
+            int h = 1 - i % 2;
+            answer("carry " + h, real.carry(h), model.carry(h));
+        }
+    }
+
+    private void play(int mood, boolean slowReader, int[] seen) {
         while (real.callsLeft() > CALLS_FOR_THE_END && !differs) {
-            step(mood);
+            step(mood, slowReader);
             for (int i = pick(4); i > 0 && !differs && real.callsLeft() > 0; i--) {
                 askOne();
             }
@@ -72,7 +85,7 @@ public final class ModelTest {
         return pick(40) == 0 ? (pick(2) == 0 ? low - 1 - pick(2) : high + 1 + pick(2)) : low + pick(high - low + 1);
     }
 
-    private void step(int mood) {
+    private void step(int mood, boolean slowReader) {
         int h = near(0, 1);
         int p = mood == 0 ? near(1, 2) : pick(30) == 0 ? near(1, 2) : 1;
         int dice = pick(100);
@@ -81,7 +94,7 @@ public final class ModelTest {
         } else if (dice < 56) {
             sendSome(h, p, mood);
         } else if (dice < 66) {
-            readSome(h, p);
+            readSome(h, p, slowReader ? 1 : 8);
         } else if (dice < 70) {
             answer("connect " + h + " " + p, bit(real.connect(h, p)), bit(model.connect(h, p)));
         } else if (dice < 74) {
@@ -123,8 +136,8 @@ public final class ModelTest {
         }
     }
 
-    private void readSome(int h, int p) {
-        for (int i = pick(8); i >= 0 && !differs; i--) {
+    private void readSome(int h, int p, int most) {
+        for (int i = pick(most); i >= 0 && !differs; i--) {
             answer("read " + h + " " + p, real.read(h, p), model.read(h, p));
         }
     }
@@ -162,7 +175,13 @@ public final class ModelTest {
             case 1 -> Frames.putPair(f, 15, model.socket(h, p, 3) + pick(60) - 30);
             case 2 -> Frames.putPair(f, 17, model.socket(h, p, 1 + pick(2)) + pick(9) - 4);
             case 3 -> f[19] = pick(3) == 0 ? pick(256) : pick(60);
-            case 4 -> Frames.putPair(f, 17, model.socket(h, p, 2) + 32760 + pick(16));
+            case 4 -> {
+                if (pick(2) == 0) {
+                    Frames.putPair(f, 17, model.socket(h, p, 2) + 32760 + pick(16));
+                } else {
+                    f[14] = Lab.FIN + Lab.ACK;
+                }
+            }
             case 5 -> Frames.putPair(f, 15, 65536 - pick(40));
             default -> f[13 + pick(f.length - 13)] ^= 1 << pick(8);
         }

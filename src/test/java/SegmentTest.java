@@ -63,6 +63,9 @@ public final class SegmentTest {
         lab.went(0, "");
         lab.segment(1, A, 101, 1101, 99);
         lab.went(0, "RA 1101 101 24");
+        // Nor does it count as the one before.
+        lab.arrive(1, Lab.packet(1, 0, 0, 6, nine));
+        lab.went(0, "");
     }
 
     private static void fortyTwoBytesAtMost() {
@@ -83,6 +86,8 @@ public final class SegmentTest {
         lab.went(0, "");
         lab.twoPackets(1, 6, message(32));
         lab.went(0, "RA 1101 133 24");
+        lab.twoPackets(1, 6, message(33));
+        lab.went(0, "");
     }
 
     /** "with other flags .. are dropped" */
