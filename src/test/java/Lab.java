@@ -246,15 +246,17 @@ final class Lab {
         return "";
     }
 
-    /** Whether all is there that is the same in every packet: bytes, checksums, and what is 0 or 64 always. */
+    /** Whether all is there that is the same in every packet: length, addresses, checksums, what is 0 or 64 always. */
     private static boolean isRight(int[] f, int[] m) {
         int[] sealed = f.clone();
         Frames.seal(sealed);
-        boolean right = Arrays.equals(f, sealed) && f[6] == 64 && f[8] == 0;
+        boolean right = Arrays.equals(f, sealed) && f[3] == f.length - 3 && f[6] == 64 && f[8] == 0
+                && f[11] == f[1] - 15 && f[12] == 3 - f[11];
         for (int b : f) {
             right &= b >= 0 && b <= 255;
         }
-        return right && (f[5] != 0 || m[f[7] == 1 ? 1 : 7] == 0);
+        boolean isEcho = f[7] == 1;
+        return right && (f[5] != 0 || m.length >= (isEcho ? 5 : 10) && m[isEcho ? 1 : 7] == 0);
     }
 
     /** One frame as text: an ask; a segment as flags, SEQ, ACK number, window and data; an echo; or a piece. */
